@@ -188,12 +188,8 @@ public final class KegBrooks {
     }
 
     public int go(int x, int y, boolean out) {
-        int refusal = now.refusalOf(x, y);
-        if (refusal != 0) {
-            return refusal;
-        }
-        now.pass(x, y, out);
-        return now.keg;
+        int refusal = now.passOrRefuse(x, y, out);
+        return refusal != 0 ? refusal : now.keg;
     }
 
     public int ahead(int n) {
@@ -352,17 +348,14 @@ public final class KegBrooks {
         spare.copyOf(now);
         int found = NO_FAULT;
         int went = 0;
-        while (went < n && found == NO_FAULT) {
+        for (; went < n; went++) {
             int from = f + 2 * went;
             found = sheet.faultOf(lane, from, 2);
-            if (found == NO_FAULT) {
-                int x = sheet.valueAt(from);
-                int y = sheet.valueAt(from + 1);
-                if (spare.refusalOf(x, y) != 0) {
-                    return -20 - went;
-                }
-                spare.pass(x, y, false);
-                went++;
+            if (found != NO_FAULT) {
+                break;
+            }
+            if (spare.passOrRefuse(sheet.valueAt(from), sheet.valueAt(from + 1), false) != 0) {
+                return -20 - went;
             }
         }
         now.copyOf(spare);
@@ -607,15 +600,19 @@ public final class KegBrooks {
             return within(x, 0, first.fresh) && within(y, 0, second.fresh);
         }
 
-        /** Why such a minute can not go; 0, if it can. */
-        int refusalOf(int x, int y) {
+        /** A minute as by go(): why it is refused; 0, if it went. */
+        int passOrRefuse(int x, int y, boolean out) {
             if (!hasFresh(x, y)) {
                 return BAD;
             }
             if (isOver()) {
                 return STATE;
             }
-            return minute >= MINUTE_LAST ? FULL : 0;
+            if (minute >= MINUTE_LAST) {
+                return FULL;
+            }
+            pass(x, y, out);
+            return 0;
         }
 
         int sentBy(int s) {

@@ -235,8 +235,24 @@ public final class PromisesTest {
         due("4 images are gone", x.count(1), 0);
         due("4 image 0 is gone", x.back(0), -2);
         due("4 sheets stay", x.count(3), 3);
+        feedText(x, "cells 3;room 1 1;slope 1 1;side 0 4 half 4;side 1 5 late 5;fools 0 3;fools 1 4;");
+        due("4 other lines", x.text(), 7);
+        x.men(1, 6);
         x.go(0, 0, false);
         due("4 nothing at all", x.text(), 0);
+        for (int what = 0; what < 8; what++) {
+            due("4 side 0 as at first " + what, x.side(0, what), 0);
+            due("4 side 1 as at first " + what, x.side(1, what), 0);
+        }
+        due("4 room as at first, again", x.cell(1, 0), 12);
+        due("4 slope as at first", x.cell(1, 1), 3);
+        feedText(x, "cells 4;");
+        due("4 cells anew", x.text(), 1);
+        feedText(x, "cells 6;");
+        due("4 cells anew, again", x.text(), 1);
+        due("4 six", x.rule(0), 6);
+        x.go(0, 0, false);
+        x.text();
         due("4 a text of no lines tells all", x.rule(4), 0);
         due("4 hedge as at first", x.cell(1, 2), 0);
     }
@@ -275,6 +291,8 @@ public final class PromisesTest {
     private static void textPlaces() {
         faulty("pie;", 2, 0);
         faulty("rests 1;", 2, 0);
+        faulty("z 1;", 2, 0);
+        faulty("jazz 1;", 2, 0);
         faulty("res 1;", 2, 0);
         faulty("cell 5;", 2, 0);
         faulty("restrest 1;", 2, 0);
@@ -489,6 +507,11 @@ public final class PromisesTest {
         due("13 none", x.men(0, 0), 8);
         due("13 four men", x.count(4), 4);
         due("13 the other side", x.men(1, 12), 0);
+        KegBrooks y = of("side 1 8 all 0;rest 4;");
+        y.go(0, 5, false);
+        due("13 who rests for 4 counts", y.men(1, 8), -1);
+        due("13 seven do", y.men(1, 7), 3);
+        due("13 all of them", y.count(5), 12);
     }
 
     private static void captain() {
@@ -829,6 +852,25 @@ public final class PromisesTest {
         due("23 eight single steps", x.odds(8, 0, 0), 1);
         due("23 of 8 by the power of 8", x.odds(8, 0, 1), 16777216);
         due("23 all others", x.odds(8, 20, 0), 16777215);
+        x.breaks(4);
+        // Over, but for eight single steps.
+        due("23 half and half: over", x.odds(8, 20, 0), 255);
+        due("23 half and half: below", x.odds(8, 20, 1), 256);
+        due("23 half and half behind five: 3", x.odds(5, 3, 0), 1);
+        due("23 behind five: 1", x.odds(5, 1, 0), 5);
+        due("23 behind five: 1, below", x.odds(5, 1, 1), 16);
+        x.breaks(1);
+        due("23 one of eight", x.odds(1, 6, 0), 1);
+        due("23 one of eight, below", x.odds(1, 6, 1), 8);
+        KegBrooks w = of("cells 9;keg 7;side 1 12 steady 1;rest 1;break 1;");
+        due("23 over behind nine", w.odds(1, 21, 0), 1);
+        due("23 over behind nine, below", w.odds(1, 21, 1), 8);
+        due("24 over behind nine", w.mean(1, 0), 73);
+        KegBrooks v = of("cells 9;keg 0;slope 0 0;slope 1 0;side 1 12 late 1;rest 4;break 4;");
+        // By two cells it is beyond the slopes, by one they take it back.
+        due("23 half of it comes back", v.odds(3, 20, 0), 1);
+        due("23 half of it comes back, below", v.odds(3, 20, 1), 2);
+        due("23 half of it stays", v.odds(3, 2, 1), 2);
         KegBrooks y = of("cells 3;keg 2;side 1 5 all 0;break 3;");
         due("23 over 1", y.odds(1, 21, 0), 1);
         due("23 over 1 stays", y.odds(8, 21, 0), 1);
@@ -918,6 +960,8 @@ public final class PromisesTest {
         due("25 two stop them", v.reply(1, 2, 10), 2);
         due("25 one is enough then", v.reply(1, 2, 11), 1);
         due("25 lost in any case", of("cells 3;keg 0;side 0 5 all 0;side 1 3 all 0;").reply(1, 2, 0), 20);
+        due("25 lost in any of nine", of("cells 9;keg 0;side 0 5 all 0;side 1 3 all 0;").reply(1, 4, 0), 20);
+        due("25 lost behind nine", of("cells 9;keg 8;side 1 5 all 0;side 0 3 all 0;").reply(0, 4, 0), 21);
         due("25 all are 0 then", of("cells 3;keg 0;side 0 5 all 0;side 1 3 all 0;").reply(1, 2, 10), 0);
     }
 
@@ -985,6 +1029,8 @@ public final class PromisesTest {
         due("28 without that of the last", x.without(4, 4), 2);
         due("28 the next one stops it", x.without(1, 60), 1);
         due("28 now", x.without(1, 0), 2);
+        x.captain(0, 2, 1);
+        due("28 one is enough", x.without(1, 1), 1);
         due("28 n above", x.without(1, 61), -1);
         due("28 n below", x.without(1, -1), -1);
         due("28 no cell", x.without(5, 1), -1);
@@ -1059,6 +1105,11 @@ public final class PromisesTest {
         x.put(0);
         x.go(1, 0, false);
         due("31 it is over", x.lies(), 255 - 8);
+        KegBrooks y = of("cells 3;");
+        y.tell(12, 1);
+        y.tell(12, 2);
+        due("31 behind twelve", y.lies(), 2);
+        due("32 behind twelve", y.where(), 0);
     }
 
     private static void where() {
@@ -1101,6 +1152,17 @@ public final class PromisesTest {
         due("33 nine minutes", x.play(1, 60, 1), 9);
         due("33 over", x.play(1, 60, 0), 20);
         due("33 seed MIN", x.play(MIN, 1, 0), 7);
+        // Seed 0: 0, 4, 4, 5; seed -3: 5, 4, 2, 1; seed MAX: 1, 1, 6, 6.
+        x.breaks(1);
+        due("33 seed 0 by 1", x.play(0, 1, 0), 6);
+        due("33 seed 0 by 1, four", x.play(0, 4, 0), 3);
+        due("33 seed MAX by 1", x.play(MAX, 2, 0), 6);
+        x.breaks(5);
+        due("33 seed -3 by 5", x.play(-3, 1, 0), 7);
+        due("33 seed -3 by 5, four", x.play(-3, 4, 0), 1);
+        x.breaks(4);
+        due("33 seed MAX by 4", x.play(MAX, 4, 0), 2);
+        due("33 seed MIN by 4", x.play(MIN, 4, 0), 3);
         due("33 n above", x.play(1, 61, 0), -1);
         due("33 n below", x.play(1, 0, 0), -1);
         due("33 what above", x.play(1, 1, 2), -1);
