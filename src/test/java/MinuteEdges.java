@@ -47,8 +47,9 @@ final class MinuteEdges extends Dues {
                 Edges.refused("over ahead", Edges::overAhead, x -> x.sends(side), -2);
                 Edges.refused("over behind", Edges::overBehind, x -> x.sends(side), -2);
             }
-            Edges.refused("BAD ahead of STATE", Edges::overAhead, x -> x.sends(2), -1);
-            Edges.refused("BAD ahead of STATE", Edges::overBehind, x -> x.sends(-1), -1);
+            // What is BAD is so ahead of STATE, too.
+            Edges.bounds("sends when it is over", Edges::overAhead, 0, 1, KegBrooks::sends);
+            Edges.bounds("sends when it is over", Edges::overBehind, 0, 1, KegBrooks::sends);
         });
     }
 
@@ -84,8 +85,8 @@ final class MinuteEdges extends Dues {
             due("more than fresh of 1", x.net(0, 6), -1);
             Edges.refused("over ahead", Edges::overAhead, y -> y.net(0, 0), -2);
             Edges.refused("over behind", Edges::overBehind, y -> y.net(0, 0), -2);
-            Edges.refused("BAD (x) ahead of STATE", Edges::overAhead, y -> y.net(13, 0), -1);
-            Edges.refused("BAD (y) ahead of STATE", Edges::overBehind, y -> y.net(0, -1), -1);
+            Edges.bounds("x when it is over", MinuteEdges::overOfTwelve, 0, 11, (y, v) -> y.net(v, 0));
+            Edges.bounds("y when it is over", MinuteEdges::overOfTwelve, 0, 12, (y, v) -> y.net(0, v));
         });
     }
 
@@ -125,9 +126,17 @@ final class MinuteEdges extends Dues {
             Edges.refused("more than fresh of 1", Edges::busy, x -> x.go(0, x.side(1, 0) + 1, true), -1);
             Edges.refused("over ahead", Edges::overAhead, x -> x.go(0, 0, false), -2);
             Edges.refused("over behind", Edges::overBehind, x -> x.go(0, 0, true), -2);
-            Edges.refused("BAD ahead of STATE", Edges::overAhead, x -> x.go(13, 0, false), -1);
-            Edges.refused("BAD ahead of STATE", Edges::overBehind, x -> x.go(0, -1, false), -1);
+            Edges.bounds("x when it is over", MinuteEdges::overOfTwelve, 0, 11, (x, v) -> x.go(v, 0, false));
+            Edges.bounds("y when it is over", MinuteEdges::overOfTwelve, 0, 12, (x, v) -> x.go(0, v, true));
         });
+    }
+
+    /** It is over by one man of twelve, who rests. */
+    private static KegBrooks overOfTwelve() {
+        KegBrooks x = fresh(12, 12);
+        x.put(0);
+        x.go(1, 0, false);
+        return x;
     }
 
     private static void goFull() {
@@ -138,11 +147,13 @@ final class MinuteEdges extends Dues {
             due("minutes", x.rule(4), 999);
             due("the 1000th", x.go(0, 0, false), -3);
             due("the 1000th, out", x.go(1, 0, true), -3);
+            due("the 999th, out", Edges.behind(998).go(1, 0, true), 0);
             due("minutes still", x.rule(4), 999);
             due("men still", x.side(0, 0) * 100 + x.side(0, 2), 201);
             Edges.refused("the 1000th", () -> Edges.behind(999), y -> y.go(0, 0, false), -3);
             Edges.refused("the 1000th by all", () -> Edges.behind(999), y -> y.go(3, 0, true), -3);
-            Edges.refused("BAD ahead of FULL", () -> Edges.behind(999), y -> y.go(4, 0, false), -1);
+            Edges.bounds("x of the 1000th", () -> Edges.behind(999), 0, 3, (y, v) -> y.go(v, 0, false));
+            Edges.bounds("y of the 1000th", () -> Edges.behind(999), 0, 3, (y, v) -> y.go(0, v, true));
             Edges.refused("STATE ahead of FULL", Edges::overAtTheLast, y -> y.go(0, 0, false), -2);
             // The 999th may be by which it is over.
             due("over in the 999th", Edges.overAtTheLast().rule(1), 20);
@@ -282,7 +293,51 @@ final class MinuteEdges extends Dues {
                     share(there + 21, over, power(8, n), x.odds(n, 21, 0), x.odds(n, 21, 1));
                 }
             }
+            for (int a = 0; a < 5; a++) {
+                for (int b = 0; b < 5; b++) {
+                    int ofZero = a;
+                    int ofOne = b;
+                    for (int n = 0; n <= 8; n += 2) {
+                        asByGo(() -> pushed(ofZero, ofOne, 1 + (ofZero + ofOne) % 7), n);
+                    }
+                }
+            }
         });
+    }
+
+    /** A field on which both captains send, and breaks come of it. */
+    static KegBrooks pushed(int kindOfZero, int kindOfOne, int breaks) {
+        KegBrooks x = of("cells 6;keg 3;rest 2;hedge 1 1;hedge 3 1;slope 4 2;side 0 7 all 0;side 1 9 all 0;fools 1 1;");
+        x.captain(0, kindOfZero, 4);
+        x.captain(1, kindOfOne, 5);
+        x.breaks(breaks);
+        return x;
+    }
+
+    /** All rows of minutes with and without somebody breaking out, each by go(). */
+    private static void asByGo(Edges.Setup setup, int n) {
+        KegBrooks asked = setup.make();
+        int cells = asked.rule(0);
+        int breaks = asked.rule(3);
+        long[] in = new long[cells + 2];
+        for (int outs = 0; outs < 1 << n; outs++) {
+            KegBrooks x = setup.make();
+            for (int k = 0; k < n; k++) {
+                if (x.rule(1) < 20) {
+                    x.go(x.sends(0), x.sends(1), (outs >> k & 1) == 1);
+                }
+            }
+            int many = Integer.bitCount(outs);
+            int keg = x.rule(1);
+            in[keg == 20 ? 0 : keg == 21 ? cells + 1 : keg + 1] += power(breaks, many) * power(8 - breaks, n - many);
+        }
+        long sum = 0;
+        for (int place = 0; place < in.length; place++) {
+            int i = place == 0 ? 20 : place > cells ? 21 : place - 1;
+            share("behind " + n + " by captains in " + i, in[place], power(8, n), asked.odds(n, i, 0), asked.odds(n, i, 1));
+            sum += place * in[place];
+        }
+        share("the mean behind " + n + " by captains", sum, power(8, n), asked.mean(n, 0), asked.mean(n, 1));
     }
 
     private static void odds() {

@@ -3,7 +3,9 @@ import java.util.Random;
 /** Runs of chance calls (by fixed seeds), each answer held against the model's. */
 public final class ModelTest {
     private static final int[] ODD = {-1, Integer.MIN_VALUE, Integer.MAX_VALUE, Integer.MAX_VALUE - 1, 13, 22, 41, 100, -14};
-    private static final int RUNS = 1500;
+    private static final int RUNS = 6000;
+    // An object is used for at most 512 calls: the last text and two looks at all have room behind these.
+    private static final int CALLS = 512 - 44 - 2 * 56;
 
     private final Random chance;
     private final KegBrooks keg = new KegBrooks();
@@ -11,7 +13,6 @@ public final class ModelTest {
     private final StringBuilder calls = new StringBuilder();
     private int passed = 0;
     private int failed = 0;
-    private long latest = 0;
 
     private ModelTest(long seed) {
         chance = new Random(seed);
@@ -24,7 +25,7 @@ public final class ModelTest {
         long failed = 0;
         for (long seed = from; seed < from + runs; seed++) {
             ModelTest run = new ModelTest(seed);
-            run.run(seed);
+            run.run();
             passed += run.passed;
             failed += run.failed;
             if (run.failed > 0) {
@@ -74,7 +75,6 @@ public final class ModelTest {
 
     private boolean due(String call, long got, long want) {
         calls.append(call).append(" = ").append(got).append('\n');
-        latest = got;
         if (got == want) {
             passed++;
             return true;
@@ -84,10 +84,10 @@ public final class ModelTest {
         return false;
     }
 
-    private void run(long seed) {
-        for (int n = 0; n < 500 && failed == 0; n++) {
+    private void run() {
+        while (passed < CALLS && failed == 0) {
             call(chance.nextInt(46));
-            if (chance.nextInt(10) == 0) {
+            if (chance.nextInt(40) == 0) {
                 lookAtAll();
             }
         }

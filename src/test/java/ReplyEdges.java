@@ -145,6 +145,7 @@ final class ReplyEdges extends Dues {
                     boolean told = what == 0 || what >= 10 && what <= 9 + n;
                     long got = Edges.busy().reply(0, n, what);
                     due("what " + what + " of " + n, got == -1 ? 0 : 1, told ? 1 : 0);
+                    due("what " + what + " when it is over", Edges.overAhead().reply(0, n, what), told ? -2 : -1);
                 }
                 Edges.refused("k is n", Edges::busy, x -> x.reply(0, minutes, 10 + minutes), -1);
                 Edges.refused("k is above n", Edges::busy, x -> x.reply(0, minutes, 11 + minutes), -1);
@@ -156,9 +157,9 @@ final class ReplyEdges extends Dues {
                 Edges.refused("over ahead", Edges::overAhead, x -> x.reply(side, 1, 0), -2);
                 Edges.refused("over behind", Edges::overBehind, x -> x.reply(side, 4, 13), -2);
             }
-            Edges.refused("BAD (n) ahead of STATE", Edges::overAhead, x -> x.reply(0, 5, 0), -1);
-            Edges.refused("BAD (k) ahead of STATE", Edges::overAhead, x -> x.reply(0, 4, 14), -1);
-            Edges.refused("BAD (s) ahead of STATE", Edges::overBehind, x -> x.reply(2, 4, 0), -1);
+            // What is BAD is so ahead of STATE, too.
+            Edges.bounds("n when it is over", Edges::overAhead, 1, 4, (x, v) -> x.reply(0, v, 0));
+            Edges.bounds("s when it is over", Edges::overBehind, 0, 1, (x, v) -> x.reply(v, 4, 0));
         });
     }
 
@@ -207,6 +208,9 @@ final class ReplyEdges extends Dues {
                 }
                 due("the 20th counts in " + field, last > 0 ? 1 : 0, 1);
             }
+            for (int kind = 0; kind < 5; kind++) {
+                againstKind(kind);
+            }
             due("12", of("cells 3;side 0 12 all 0;side 1 12 all 0;").hold(0, 1, 1), 12);
             due("12 of side 1", of("cells 3;side 0 12 all 0;side 1 12 all 0;").hold(1, 1, 1), 12);
             due("0", new KegBrooks().hold(0, 2, 20), 0);
@@ -227,6 +231,29 @@ final class ReplyEdges extends Dues {
         });
     }
 
+    /** The other captain is as he is, of whatever kind. */
+    private static void againstKind(int kind) {
+        for (int s = 0; s < 2; s++) {
+            int other = 1 - s;
+            Edges.Setup setup = () -> {
+                KegBrooks x = of("cells 5;rest 2;side " + other + " 9 all 0;side " + (1 - other) + " 7 all 0;");
+                x.captain(other, kind, 3);
+                return x;
+            };
+            KegBrooks x = setup.make();
+            for (int i = 0; i < 5; i++) {
+                for (int n = 1; n <= 4; n++) {
+                    due("side " + s + " against kind " + kind + ", cell " + i + ", " + n, x.hold(s, i, n),
+                        asByAhead(setup, s, i, n));
+                }
+            }
+        }
+        int[] due = {Edges.NONE, 4, 3, 0, 7};
+        KegBrooks x = of("cells 3;side 0 7 all 0;side 1 9 all 0;");
+        x.captain(1, kind, kind == 3 ? 1 : 3);
+        due("kind " + kind + " is stopped by", x.hold(0, 1, 1), due[kind]);
+    }
+
     private static void holdBounds() {
         Edges.promise(26, "BAD; STATE: it is OVER; NONE: by none.", () -> {
             Edges.bounds("n", Edges::busy, 1, 20, (x, v) -> x.hold(0, 5, v));
@@ -241,9 +268,10 @@ final class ReplyEdges extends Dues {
                 Edges.refused("over ahead", Edges::overAhead, x -> x.hold(side, 3, 1), -2);
                 Edges.refused("over behind", Edges::overBehind, x -> x.hold(side, 3, 20), -2);
             }
-            Edges.refused("BAD (s) ahead of STATE", Edges::overAhead, x -> x.hold(2, 3, 1), -1);
-            Edges.refused("BAD (i) ahead of STATE", Edges::overAhead, x -> x.hold(0, 6, 1), -1);
-            Edges.refused("BAD (n) ahead of STATE", Edges::overBehind, x -> x.hold(0, 3, 21), -1);
+            // What is BAD is so ahead of STATE, too.
+            Edges.bounds("s when it is over", Edges::overAhead, 0, 1, (x, v) -> x.hold(v, 3, 1));
+            Edges.bounds("i when it is over", Edges::overAhead, 0, 5, (x, v) -> x.hold(0, v, 1));
+            Edges.bounds("n when it is over", Edges::overBehind, 1, 20, (x, v) -> x.hold(1, 3, v));
             Edges.Setup none = () -> of("cells 3;side 0 12 all 0;side 1 12 all 0;fools 0 1;");
             Edges.refused("by none", none, x -> x.hold(0, 1, 1), -4);
             due("by side 1 it is", none.make().hold(1, 1, 1), 11);
@@ -296,6 +324,10 @@ final class ReplyEdges extends Dues {
             String field = "cells 4;keg 1;slope 1 4;slope 2 2;hedge 1 1;hedge 3 9;break 7;";
             KegBrooks x = of(field);
             due("with it", x.ahead(60), 1);
+            for (int i = 0; i < 5; i++) {
+                due("nobody moves it without hedge " + i, new KegBrooks().without(i, 1), 2);
+                due("nor in 60 without hedge " + i, new KegBrooks().without(i, 60), 2);
+            }
             for (int n = 0; n <= 60; n++) {
                 due("without it, behind " + n, x.without(1, n), 1 + n % 2);
             }

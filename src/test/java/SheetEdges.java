@@ -67,26 +67,31 @@ final class SheetEdges extends Dues {
         }
     }
 
+    /** All is changed and taken back, so many times. */
+    private static void asItWas(Edges.Setup setup, int k, int times) {
+        KegBrooks x = setup.make();
+        x.keep(1 - k);
+        x.keep(k);
+        long[] then = Edges.looks(x);
+        for (int time = 0; time < times; time++) {
+            changeAll(x);
+            due("the keg is elsewhere", x.rule(1) == then[1] ? 1 : 0, 0);
+            due("the minute", x.back(k), then[4]);
+        }
+        sameLooks("image " + k, Edges.looks(x), then);
+        x.put(1);
+        x.back(1 - k);
+        sameLooks("image " + (1 - k), Edges.looks(x), then);
+    }
+
     private static void keepAll() {
         Edges.promise(34, "IMAGE k (0, 1) is CELLS, THE KEG, SIDES, REST, BREAK, MINUTE", () -> {
-            for (int k = 0; k < 2; k++) {
-                Edges.Setup[] setups = {Edges::busy, Edges::overAhead, Edges::overBehind, KegBrooks::new};
-                for (Edges.Setup setup : setups) {
-                    KegBrooks x = setup.make();
-                    x.keep(0);
-                    x.keep(1);
-                    long[] then = Edges.looks(x);
-                    changeAll(x);
-                    due("it is another", java.util.Arrays.equals(Edges.looks(x), then) ? 1 : 0, 0);
-                    due("the minute", x.back(k), then[4]);
-                    sameLooks("image " + k, Edges.looks(x), then);
+            Edges.Setup[] setups = {Edges::busy, Edges::overAhead, Edges::overBehind, KegBrooks::new};
+            for (Edges.Setup setup : setups) {
+                for (int k = 0; k < 2; k++) {
+                    asItWas(setup, k, 1);
                     // What is changed then is not changed in the image.
-                    changeAll(x);
-                    x.back(k);
-                    sameLooks("image " + k + " once more", Edges.looks(x), then);
-                    changeAll(x);
-                    x.back(1 - k);
-                    sameLooks("image " + (1 - k), Edges.looks(x), then);
+                    asItWas(setup, k, 2);
                 }
             }
         });
@@ -159,8 +164,8 @@ final class SheetEdges extends Dues {
             }
             Edges.bounds("back", Edges::busy, 0, 1, KegBrooks::back);
             Edges.bounds("back when it is over", Edges::overBehind, 0, 1, KegBrooks::back);
-            Edges.refused("BAD ahead of STATE", KegBrooks::new, x -> x.back(2), -1);
-            Edges.refused("BAD ahead of STATE", KegBrooks::new, x -> x.back(-1), -1);
+            // What is BAD is so ahead of STATE, too.
+            Edges.bounds("back of none", KegBrooks::new, 0, 1, KegBrooks::back);
         });
     }
 

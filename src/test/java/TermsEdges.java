@@ -576,6 +576,11 @@ final class TermsEdges extends Dues {
             for (int n = 0; n < back.length; n++) {
                 due("behind " + n, x.ahead(n), back[n]);
             }
+            for (int a = 0; a < 5; a++) {
+                for (int b = 0; b < 5; b++) {
+                    asByGo(a, b);
+                }
+            }
             KegBrooks y = of("cells 5;keg 2;side 1 6 steady 1;rest 1;break 7;");
             int[] over = {2, 3, 4, 21, 21, 21};
             for (int n = 0; n < over.length; n++) {
@@ -585,5 +590,22 @@ final class TermsEdges extends Dues {
             due("not told otherwise: over", y.over(), 3);
             due("not told otherwise: lies", y.tell(1, 3) + y.lies(), 1);
         });
+    }
+
+    /** What is ahead is what go() does with all that both would send, for each two kinds, more men on either side. */
+    private static void asByGo(int a, int b) {
+        for (int more = 0; more < 2; more++) {
+            String field = "cells 7;rest 3;hedge 2 1;slope 4 2;side " + more + " 9 all 0;side " + (1 - more) + " 4 all 0;";
+            KegBrooks x = of(field);
+            x.captain(0, a, 4);
+            x.captain(1, b, 3);
+            KegBrooks y = of(field);
+            y.captain(0, a, 4);
+            y.captain(1, b, 3);
+            for (int n = 1; n <= 12; n++) {
+                int keg = y.rule(1) >= 20 ? y.rule(1) : y.go(y.sends(0), y.sends(1), false);
+                due("captains " + KINDS[a] + ", " + KINDS[b] + " behind " + n, x.ahead(n), keg);
+            }
+        }
     }
 }

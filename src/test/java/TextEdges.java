@@ -404,6 +404,18 @@ final class TextEdges extends Dues {
                 refusedText("fools " + s + " 1;fools " + s + " 2;", 4, 16);
             }
             taken("side 1 1 all 1;side 0 1 all 1;fools 0 1;fools 1 1;", 4);
+            // Told already, others having been told since.
+            for (String name : new String[] {"room", "slope", "hedge"}) {
+                String line = name + " 1 1;";
+                String others = name + " 0 1;" + name + " 4 1;" + name + " 2 1;";
+                refusedText(line + others + line, 4, line.length() + others.length() + name.length() + 1);
+                refusedText(others + line + name + " 0 1;", 4, line.length() + others.length() + name.length() + 1);
+            }
+            refusedText("side 0 1 all 1;side 1 1 all 1;side 0 1 all 1;", 4, 35);
+            refusedText("side 1 1 all 1;side 0 1 all 1;side 1 1 all 1;", 4, 35);
+            refusedText("fools 0 1;fools 1 1;fools 0 1;", 4, 26);
+            refusedText("fools 1 1;fools 0 1;fools 1 1;", 4, 26);
+            refusedText("cells 5;keg 1;rest 1;break 1;cells 5;", 4, 29);
             // Each text tells anew.
             KegBrooks x = of("rest 1;room 1 1;side 0 1 all 1;");
             feedText(x, "rest 1;room 1 1;side 0 1 all 1;");

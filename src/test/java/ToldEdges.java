@@ -76,8 +76,9 @@ final class ToldEdges extends Dues {
             due("eight", eightTold().count(0), 8);
             Edges.refused("the ninth", ToldEdges::eightTold, x -> x.tell(1, 1), -3);
             Edges.refused("the ninth, over", ToldEdges::eightTold, x -> x.tell(12, 21), -3);
-            Edges.refused("BAD (n) ahead of FULL", ToldEdges::eightTold, x -> x.tell(-1, 1), -1);
-            Edges.refused("BAD (i) ahead of FULL", ToldEdges::eightTold, x -> x.tell(1, 6), -1);
+            // What is BAD is so ahead of FULL, too.
+            Edges.bounds("n of a ninth", ToldEdges::eightTold, 0, 12, (x, v) -> x.tell(v, 1));
+            Edges.places("a ninth", ToldEdges::eightTold, 6, (x, v) -> x.tell(1, v));
             KegBrooks x = eightTold();
             x.forget(7);
             due("the eighth anew", x.tell(0, 0), 8);
@@ -271,6 +272,13 @@ final class ToldEdges extends Dues {
                     }
                 }
             }
+            for (int a = 0; a < 5; a++) {
+                for (int b = 0; b < 5; b++) {
+                    for (int seed : SEEDS) {
+                        playedByGo(a, b, 1 + (a + b) % 7, seed);
+                    }
+                }
+            }
             // Seed 0 becomes 12345: bits 16 to 30 are 0, which is not less than 0.
             due("0 is not less than 0", endless(0).play(0, 1, 0), 5);
             due("0 is less than 1", endless(1).play(0, 1, 0), 6);
@@ -278,5 +286,23 @@ final class ToldEdges extends Dues {
             due("6 is not less than 6", endless(6).play(1, 1, 0), 5);
             due("6 is less than 7", endless(7).play(1, 1, 0), 6);
         });
+    }
+
+    /** What captains and a seed play is what go() does, minute by minute, till it is over. */
+    private static void playedByGo(int a, int b, int breaks, int first) {
+        KegBrooks x = MinuteEdges.pushed(a, b, breaks);
+        KegBrooks y = MinuteEdges.pushed(a, b, breaks);
+        long seed = first;
+        int went = 0;
+        for (int n = 1; n <= 20; n++) {
+            if (y.rule(1) < 20) {
+                seed = seed * 1103515245L + 12345L & 0xFFFFFFFFL;
+                y.go(y.sends(0), y.sends(1), chance(seed) < breaks);
+                went = n;
+            }
+            String what = "captains " + a + ", " + b + ", BREAK " + breaks + ", seed " + first + ", behind " + n;
+            due(what, x.play(first, n, 0), y.rule(1));
+            due(what + ", minutes", x.play(first, n, 1), went);
+        }
     }
 }
