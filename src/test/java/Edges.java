@@ -1,6 +1,3 @@
-import java.io.IOException;
-import java.nio.file.Files;
-import java.nio.file.Path;
 import java.util.ArrayList;
 import java.util.Arrays;
 import java.util.LinkedHashMap;
@@ -78,18 +75,10 @@ final class Edges {
         System.out.println(edge + " | " + what);
     }
 
-    /** What there is of the document is looked at; whether all edges held. */
-    static boolean finish(Path document) {
+    /** The quotes are looked up in the document; whether all edges held. */
+    static boolean finish(String document) {
         edge = "the document";
-        if (Files.isReadable(document)) {
-            try {
-                quotesStandIn(sectionsOf(Files.readString(document)));
-            } catch (IOException e) {
-                fail("is not readable: " + e);
-            }
-        } else {
-            System.out.println("without " + document + " no quote is looked up");
-        }
+        quotesStandIn(sectionsOf(document));
         System.out.println("EdgesTest: " + edges + " edges, " + passed + " passed, " + failed + " failed");
         return failed == 0;
     }
@@ -121,13 +110,14 @@ final class Edges {
             }
         }
         for (Map.Entry<String, String> section : sections.entrySet()) {
-            if (section.getKey().startsWith("Promise ") || section.getKey().equals("Terms")) {
+            // What is not promised is free.
+            if (!section.getKey().equals("Not promised")) {
                 wordsAreTaken(section.getKey(), section.getValue());
             }
         }
     }
 
-    /** Each word of a promise or of the terms is in the name of an edge, but for the heads and signatures. */
+    /** Each word of a section is in the name of an edge. */
     private static void wordsAreTaken(String section, String body) {
         boolean[] taken = new boolean[body.length()];
         List<String> all = new ArrayList<>(QUOTES.getOrDefault(section, List.of()));
@@ -141,19 +131,18 @@ final class Edges {
         for (int i = 0; i < taken.length; i++) {
             left.append(taken[i] ? '|' : body.charAt(i));
         }
-        String rest = left.toString().replaceAll("^`[^`]*`:", "").replaceAll("Ahead of the calls .*$", "")
-            .replaceAll("```(text)?|========", "");
-        if (rest.matches("[|\\s.,;:()0-9]*")) {
+        String rest = left.toString().replaceAll("```(text|java)?|======== [12] ", "");
+        if (rest.matches("[|\\s.,;:(){}]*")) {
             passed++;
         } else {
             fail(section + " has words without an edge: " + rest.replaceAll("\\|+", " | "));
         }
     }
 
-    // Words of the terms that lead on to what is told behind them.
+    // Words that lead on to what is told behind them, and what is free.
     private static final List<String> NO_EDGE = List.of(
         "Answers: ", "SIDES 0 and 1, each with ", "KINDS of CAPTAINS, what they SEND: ", "each with ",
-        "FAULTS, ", "THE TAPE has ", "A text that is taken ");
+        "FAULTS, ", "THE TAPE has ", "A text that is taken ", "what later calls answer is free.");
 
     // ---- bounds
 

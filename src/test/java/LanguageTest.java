@@ -42,7 +42,7 @@ public final class LanguageTest {
     public static void main(String[] args) throws Exception {
         face();
         classesInside();
-        text(Files.readString(Path.of(args[0]), StandardCharsets.UTF_8));
+        text(Files.readString(Path.of(args.length > 0 ? args[0] : "src/main/java/KegBrooks.java"), StandardCharsets.UTF_8));
         System.out.println("LanguageTest: " + passed + " passed, " + failed + " failed");
         if (failed > 0) {
             System.exit(1);
