@@ -1,3 +1,4 @@
+import java.lang.reflect.Array;
 import java.lang.reflect.Constructor;
 import java.lang.reflect.Field;
 import java.lang.reflect.Method;
@@ -6,6 +7,7 @@ import java.nio.charset.StandardCharsets;
 import java.nio.file.Files;
 import java.nio.file.Path;
 import java.util.ArrayList;
+import java.util.IdentityHashMap;
 import java.util.List;
 import java.util.TreeSet;
 import java.util.regex.Matcher;
@@ -40,9 +42,13 @@ public final class LanguageTest {
     }
 
     public static void main(String[] args) throws Exception {
+        String source = Files.readString(Path.of(args.length > 0 ? args[0] : "src/main/java/KegBrooks.java"),
+            StandardCharsets.UTF_8);
         face();
         classesInside();
-        text(Files.readString(Path.of(args.length > 0 ? args[0] : "src/main/java/KegBrooks.java"), StandardCharsets.UTF_8));
+        text(source);
+        methods(source);
+        room();
         System.out.println("LanguageTest: " + passed + " passed, " + failed + " failed");
         if (failed > 0) {
             System.exit(1);
@@ -146,6 +152,116 @@ public final class LanguageTest {
             } else if (start >= 0 && lines[k].matches("^( {4}| {8})\\}$")) {
                 holds("sixty lines at most from line " + (start + 1), k - start < 60);
                 start = -1;
+            }
+        }
+    }
+
+    // ---- methods
+
+    /** A method or constructor of the class's text. */
+    private static final class Body {
+        String owner = "";
+        String name = "";
+        final StringBuilder text = new StringBuilder();
+    }
+
+    private static final Pattern CALL = Pattern.compile("(?<!new )(?:\\b(\\w+)\\.)?\\b(\\w+)\\(");
+    private static final List<String> NO_CALLS = List.of("if", "for", "while", "switch", "return");
+    // What of the library the class may need; the names of LANGUAGE.md's rule 4.
+    private static final List<String> LIBRARY = List.of("Math.max", "Math.min", "Integer.bitCount", "System.arraycopy",
+        "words.length", "words.charAt");
+
+    private static void methods(String source) {
+        List<Body> all = bodiesOf(source.replaceAll("(?s)/\\*.*?\\*/", "").replaceAll("//[^\n]*", ""));
+        holds("some methods: " + all.size(), all.size() > 100);
+        for (Body body : all) {
+            boolean makes = Pattern.compile("\\bnew\\b").matcher(body.text).find();
+            holds("nothing is made behind a constructor: " + body.name, !makes || body.name.equals(body.owner));
+            for (Matcher m = CALL.matcher(body.text); m.find();) {
+                boolean own = NO_CALLS.contains(m.group(2)) || all.stream().anyMatch(b -> b.name.equals(m.group(2)));
+                holds("of the library: " + m.group(), own || LIBRARY.contains(m.group(1) + "." + m.group(2)));
+            }
+            int deep = depthOf(body, all, new ArrayList<>());
+            holds("calls go eight deep at most: " + body.owner + "." + body.name + " " + deep, deep <= 8);
+        }
+    }
+
+    /** How deep the calls of a method go, itself as well; one that calls itself is one. */
+    private static int depthOf(Body body, List<Body> all, List<Body> open) {
+        open.add(body);
+        int deepest = 0;
+        for (Matcher m = CALL.matcher(body.text); m.find();) {
+            if (LIBRARY.contains(m.group(1) + "." + m.group(2))) {
+                deepest = Math.max(deepest, 1);
+            }
+            for (Body called : all) {
+                if (called.name.equals(m.group(2)) && !open.contains(called)) {
+                    deepest = Math.max(deepest, depthOf(called, all, open));
+                }
+            }
+        }
+        open.remove(body);
+        return deepest + 1;
+    }
+
+    private static List<Body> bodiesOf(String code) {
+        List<Body> all = new ArrayList<>();
+        Pattern head = Pattern.compile("( +)(?:[a-z]+ )*(?:[A-Za-z\\[\\]]+ )?(\\w+)\\([^()]*\\) \\{");
+        Pattern kind = Pattern.compile(" *(?:[a-z]+ )*class (\\w+) \\{");
+        String owner = "";
+        String end = "";
+        Body body = null;
+        for (String line : code.split("\n")) {
+            Matcher h = head.matcher(line);
+            Matcher k = kind.matcher(line);
+            if (k.matches()) {
+                owner = k.group(1);
+            } else if (body == null && h.matches() && !NO_CALLS.contains(h.group(2))) {
+                body = new Body();
+                body.owner = owner;
+                body.name = h.group(2);
+                end = h.group(1) + "}";
+                all.add(body);
+            } else if (body != null && line.equals(end)) {
+                body = null;
+            } else if (body != null) {
+                body.text.append(line).append('\n');
+            }
+        }
+        return all;
+    }
+
+    // ---- room
+
+    private static long objects = 0;
+    private static long elements = 0;
+
+    /** What an object holds: a run may make one with each of its 512 calls, and has room for all of them. */
+    private static void room() throws Exception {
+        walk(new KegBrooks(), new IdentityHashMap<>());
+        holds("room for 512 times " + objects + " objects", objects * 512 < 600_000);
+        holds("room for 512 times " + elements + " fields and elements", elements * 512 < 7_300_000);
+    }
+
+    private static void walk(Object x, IdentityHashMap<Object, Object> met) throws Exception {
+        if (x == null || x instanceof String || met.put(x, x) != null) {
+            return;
+        }
+        objects++;
+        if (x.getClass().isArray()) {
+            elements += Array.getLength(x);
+            for (int i = 0; x instanceof Object[] && i < Array.getLength(x); i++) {
+                walk(Array.get(x, i), met);
+            }
+            return;
+        }
+        for (Field f : x.getClass().getDeclaredFields()) {
+            if (!Modifier.isStatic(f.getModifiers())) {
+                elements++;
+                f.setAccessible(true);
+                if (!f.getType().isPrimitive()) {
+                    walk(f.get(x), met);
+                }
             }
         }
     }
